@@ -159,7 +159,8 @@ public final class TorusGates {
         return circuit.add(gate, a, b);
     }
 
-    public int play(int line, int inputs) throws NoSuchElementException, IllegalArgumentException, IllegalStateException {
+    public int play(int line, int inputs)
+            throws NoSuchElementException, IllegalArgumentException, IllegalStateException {
         if (!circuit.hasLine(line)) {
             throw new NoSuchElementException("there is no such line");
         }
@@ -236,6 +237,7 @@ public final class TorusGates {
         return (int) raised;
     }
 
+    /** Comes before the look for a free number: what is refused counts also with 120 bits there. */
     private void refuseIf(boolean tooFar) {
         if (tooFar) {
             refusals++;
@@ -291,7 +293,7 @@ public final class TorusGates {
         }
     }
 
-    /** A bit: its row, its bound, and the value it ought to have (for within() alone; gates and open() go by the row). */
+    /** A bit. The value that it ought to have is kept for within() alone; gates and open() go by the row. */
     private static final class Cell {
         final int[] row;
         int bound;
@@ -639,7 +641,7 @@ public final class TorusGates {
             return (number + ROUNDING) >>> PLACE_SHIFT;
         }
 
-        /** Turned back by the hidden number, the wheel's first number is an eighth, if that lies above 0, else its opposite. */
+        /** Turned back by a number above 0, the wheel's first number is an eighth, else minus an eighth. */
         private void startWheel(int back) {
             for (int i = 0; i < Ring.SIZE; i++) {
                 wheel[i] = 0;

@@ -6,6 +6,9 @@ final class Check {
     static final String ARGUMENT = "throws.IllegalArgumentException";
     static final String STATE = "throws.IllegalStateException";
 
+    /** For each gate what comes of 0 0, 0 1, 1 0 and 1 1. */
+    static final String[] TABLES = {"0001", "0111", "1110", "1000", "0110", "1001", "0010", "1011"};
+
     private static int wrong = 0;
 
     interface Call {

@@ -1,6 +1,5 @@
 /** Whatever key there is, bits are as gates say, and each lies within its bound. */
 public final class KeysTest {
-    private static final String[] TABLES = {"0001", "0111", "1110", "1000", "0110", "1001", "0010", "1011"};
     private static final int[] EDGE_SEEDS = {0, 1, -1, 2, Integer.MIN_VALUE, Integer.MAX_VALUE, -77, 0x55555555};
 
     public static void main(String[] args) {
@@ -33,7 +32,7 @@ public final class KeysTest {
         for (int g = from; g <= to; g++) {
             int made = x.gate(g, first, second);
             String what = "seed " + seed + " gate " + g + " of " + values;
-            Check.same(what, TABLES[g].charAt(values), x.open(made));
+            Check.same(what, Check.TABLES[g].charAt(values), x.open(made));
             Check.same(what + " within", true, x.within(made));
             x.drop(made);
         }
@@ -49,7 +48,7 @@ public final class KeysTest {
         for (int i = 0; i < 24; i++) {
             int g = i % 8;
             int made = x.gate(g, last, other);
-            value = TABLES[g].charAt((value ? 2 : 0)) == '1';
+            value = Check.TABLES[g].charAt((value ? 2 : 0)) == '1';
             Check.same("seed " + seed + " chain " + i, value ? 1 : 0, x.open(made));
             Check.same("seed " + seed + " chain " + i + " within", true, x.within(made));
             x.drop(last);

@@ -194,7 +194,6 @@ final class PlainModel {
     }
 
     private static boolean value(int gate, boolean a, boolean b) {
-        String[] tables = {"0001", "0111", "1110", "1000", "0110", "1001", "0010", "1011"};
-        return tables[gate].charAt((a ? 2 : 0) + (b ? 1 : 0)) == '1';
+        return Check.TABLES[gate].charAt((a ? 2 : 0) + (b ? 1 : 0)) == '1';
     }
 }

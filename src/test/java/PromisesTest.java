@@ -234,7 +234,6 @@ public final class PromisesTest {
     }
 
     private static void gate() {
-        String[] tables = {"0001", "0111", "1110", "1000", "0110", "1001", "0010", "1011"};
         for (int g = 0; g < 8; g++) {
             TorusGates x = withBits(1, 1);
             for (int inputs = 0; inputs < 4; inputs++) {
@@ -244,7 +243,7 @@ public final class PromisesTest {
                 String what = "8 gate(" + g + ", " + first + ", " + second + ")";
                 Check.due(what, 2 + inputs, () -> x.gate(kind, first, second));
                 int made = 2 + inputs;
-                Check.due(what + " opens", tables[g].charAt(inputs), () -> x.open(made));
+                Check.due(what + " opens", Check.TABLES[g].charAt(inputs), () -> x.open(made));
                 Check.due(what + " bound", GATE_BOUND, () -> x.bound(made));
                 Check.due(what + " within", true, () -> x.within(made));
             }
@@ -278,20 +277,17 @@ public final class PromisesTest {
     /** x + y in sixteens: 14,680,064 is the least that is refused. */
     private static void gateLimits() {
         for (int v = 0; v < 4; v++) {
+            int inputs = v;
             TorusGates x = new TorusGates();
-            boolean first = v >> 1 == 1;
-            boolean second = (v & 1) == 1;
-            x.bit(first);
-            x.bit(second);
+            x.bit(v >> 1 == 1);
+            x.bit((v & 1) == 1);
             raise(x, 0, 10000000);
             raise(x, 1, 4680063);
-            boolean[] want = {first && second, first || second, !(first && second), !(first || second),
-                first != second, first == second, first && !second, first || !second};
             for (int g = 0; g < 8; g++) {
                 int kind = g;
                 int made = 2 + g;
                 Check.due("8 just below, gate " + g, made, () -> x.gate(kind, 0, 1));
-                Check.due("8 just below, gate " + g + " opens", want[g] ? 1 : 0, () -> x.open(made));
+                Check.due("8 just below, gate " + g + " opens", Check.TABLES[g].charAt(inputs), () -> x.open(made));
                 Check.due("8 just below, gate " + g + " within", true, () -> x.within(made));
                 Check.due("8 just below, gate " + g + " bound", GATE_BOUND, () -> x.bound(made));
             }

@@ -1,4 +1,5 @@
 import java.lang.reflect.Field;
+import java.lang.reflect.Method;
 import java.util.Arrays;
 
 /**
@@ -11,6 +12,10 @@ public final class RowsTest {
         openingNeedsTheKey();
         withinMeasures();
         rowsAreNotInTheClear();
+        pileLaysRowsOverThemselves();
+        digitsAndRests();
+        noiseOfRows();
+        worstRoundings();
         Check.finish();
     }
 
@@ -103,5 +108,132 @@ public final class RowsTest {
         x.key(2);
         x.bit(true);
         Check.same("a row under another key differs", false, Arrays.equals(before, row(x, 0)));
+    }
+
+    private static void pileLaysRowsOverThemselves() throws Exception {
+        TorusGates x = new TorusGates();
+        x.bit(true);
+        int[] want = row(x, 0).clone();
+        for (int i = 0; i < want.length; i++) {
+            want[i] *= 801;
+        }
+        x.pile(0, 100);
+        Check.same("801 times the row", Arrays.toString(want), Arrays.toString(row(x, 0)));
+    }
+
+    private static Method method(Class<?> owner, String name, Class<?>... types) throws Exception {
+        Method m = owner.getDeclaredMethod(name, types);
+        m.setAccessible(true);
+        return m;
+    }
+
+    /** The count in the comment of Refresher rests on digits of at most 512 and rests of at most 2048. */
+    private static void digitsAndRests() throws Exception {
+        Class<?> digits = Class.forName("TorusGates$Digits");
+        Method digit = method(digits, "digit", int.class, int.class);
+        Method weight = method(digits, "weight", int.class);
+        int number = 0;
+        for (int i = 0; i < 200000; i++) {
+            int rest = number;
+            for (int which = 0; which < 2; which++) {
+                int d = (int) digit.invoke(null, number, which);
+                Check.same("digit of " + number + " in range", true, d >= -512 && d <= 511);
+                rest -= d * (int) weight.invoke(null, which);
+            }
+            Check.same("rest of " + number + " in range", true, rest >= -2048 && rest <= 2048);
+            number = i < 100000 ? number + 0x9E3779B1 : (i - 150000) * 64;
+        }
+    }
+
+    /** It rests also on noise of at most 4 in the rows that help the gates; new rows have at most 16. */
+    private static void noiseOfRows() throws Exception {
+        for (int seed = -20; seed < 20; seed++) {
+            TorusGates x = new TorusGates();
+            x.key(seed);
+            Object secret = field(x, "secret");
+            Method placeOf = method(secret.getClass(), "placeOf", int[].class);
+            int[] ring = keyFor(x, "forRing");
+            int[][] wayBack = (int[][]) field(field(x, "refresher"), "wayBack");
+            for (int i = 0; i < wayBack.length; i++) {
+                int hidden = ring[i / 2] << (i % 2 == 0 ? 22 : 12);
+                int noise = (int) placeOf.invoke(secret, wayBack[i]) - hidden;
+                Check.same("noise on the way back", true, Math.abs(noise) <= 4);
+            }
+            int[] key = keyFor(x, "forRows");
+            int[][] steps = (int[][]) field(field(x, "refresher"), "steps");
+            for (int i = 0; i < steps.length; i++) {
+                int half = i / 2 % 2;
+                int[] pair = steps[i].clone();
+                pair[half * 32] -= key[i / 4] << (i % 2 == 0 ? 22 : 12);
+                Check.same("noise in a step", true, greatestNoise(pair, ring) <= 4);
+            }
+            for (int a = 0; a < 100; a++) {
+                x.bit(a % 2 == 0);
+                Check.same("noise in a new row", true, x.within(a));
+            }
+        }
+    }
+
+    /** The hidden half less the mask half times the key, by the plain rule that X to the power of 32 is -1. */
+    private static int greatestNoise(int[] pair, int[] ring) {
+        int greatest = 0;
+        for (int c = 0; c < 32; c++) {
+            int left = pair[32 + c];
+            for (int i = 0; i < 32; i++) {
+                left -= ring[i] * (i <= c ? pair[c - i] : -pair[32 + c - i]);
+            }
+            greatest = Math.max(greatest, Math.abs(left));
+        }
+        return greatest;
+    }
+
+    /** All key bits are 1 and all numbers are rounded the same way; the bits are as far off as gates bear. */
+    private static void worstRoundings() throws Exception {
+        TorusGates x = new TorusGates();
+        int seed = 0;
+        while (seed < 100000 && Arrays.stream(keyFor(x, "forRows")).sum() < 8) {
+            x.key(seed);
+            seed++;
+        }
+        Check.same("a key of ones", 8, Arrays.stream(keyFor(x, "forRows")).sum());
+        int half = 1 << 25;
+        for (int number : new int[] {0, 2, half - 2, half, half + 2, 2 * half - 2, -2, -half, -half - 2}) {
+            for (int values = 0; values < 4; values++) {
+                for (int sign = -1; sign <= 1; sign += 2) {
+                    worstGates(x, number, values, sign);
+                }
+            }
+        }
+    }
+
+    private static final int[] FIRST = {1, 1, -1, -1, 2, -2, 1, 1};
+    private static final int[] SECOND = {1, 1, -1, -1, 2, -2, -1, -1};
+
+    private static void worstGates(TorusGates x, int number, int values, int sign) throws Exception {
+        for (int g = 0; g < 8; g++) {
+            int off = sign * ((g == 4 || g == 5 ? 771751936 / 4 : 234881024 / 2) - 8);
+            boolean first = values >> 1 == 1;
+            boolean second = (values & 1) == 1;
+            int a = x.bit(first);
+            int b = x.bit(second);
+            PromisesTest.raise(x, a, (Math.abs(off) + 8) / 16);
+            PromisesTest.raise(x, b, (Math.abs(off) + 8) / 16 - 1);
+            place(row(x, a), number / FIRST[g], first, off * Integer.signum(FIRST[g]));
+            place(row(x, b), 0, second, (off - sign * 8) * Integer.signum(SECOND[g]));
+            Check.same("worst, within " + g, true, x.within(a) && x.within(b));
+            int made = x.gate(g, a, b);
+            String what = "worst, gate " + g + " of " + values + ", " + number + ", " + sign;
+            Check.same(what, Check.TABLES[g].charAt(values), x.open(made));
+            Check.same(what + " within", true, x.within(made));
+            x.drop(made);
+            x.drop(b);
+            x.drop(a);
+        }
+    }
+
+    /** A row under the key of ones: all numbers of its mask the same, and off its place by so much. */
+    private static void place(int[] row, int number, boolean value, int off) {
+        Arrays.fill(row, number);
+        row[8] = (value ? 1 << 29 : -(1 << 29)) + off + 8 * number;
     }
 }
