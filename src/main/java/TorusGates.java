@@ -293,7 +293,7 @@ public final class TorusGates {
         }
     }
 
-    /** A bit. The value that it ought to have is kept for within() alone; gates and open() go by the row. */
+    /** A bit. The value due to it is carried along for within() alone: no gate's row and no open() goes by it. */
     private static final class Cell {
         final int[] row;
         int bound;
