@@ -3,15 +3,20 @@ import java.lang.reflect.Method;
 import java.util.Arrays;
 
 /**
- * What no call of the face can show: gates work without the key, within() and open() go by the row.
- * It reaches into the object by its fields' names.
+ * What no call of the face can show: gates work without the key, rows hide what they hold, within() and open()
+ * go by the row. It reaches into the object by its fields' names.
  */
 public final class RowsTest {
     public static void main(String[] args) throws Exception {
+        newObjectHasTheKeyOfSeed1();
         gatesWithoutTheKey();
         openingNeedsTheKey();
         withinMeasures();
+        withinOnTheOtherSide();
         rowsAreNotInTheClear();
+        masksAreDrawnAnew();
+        keysAreDrawnAnew();
+        blurMovesByAtMost16();
         pileLaysRowsOverThemselves();
         digitsAndRests();
         noiseOfRows();
@@ -30,8 +35,29 @@ public final class RowsTest {
         return (int[]) field(cell, "row");
     }
 
+    private static int placeOf(TorusGates x, int a) throws Exception {
+        Object secret = field(x, "secret");
+        return (int) method(secret.getClass(), "placeOf", int[].class).invoke(secret, row(x, a));
+    }
+
     private static int[] keyFor(TorusGates x, String part) throws Exception {
         return (int[]) field(field(x, "secret"), part);
+    }
+
+    /** "A key of the seed 1": the same key as key(1) makes, and not that of another seed. */
+    private static void newObjectHasTheKeyOfSeed1() throws Exception {
+        String made = keyOf(new TorusGates());
+        TorusGates x = new TorusGates();
+        x.key(1);
+        Check.same("key(1)", made, keyOf(x));
+        x.key(2);
+        Check.same("key(2) is another", false, made.equals(keyOf(x)));
+        x.key(1);
+        Check.same("key(1) again", made, keyOf(x));
+    }
+
+    private static String keyOf(TorusGates x) throws Exception {
+        return Arrays.toString(keyFor(x, "forRows")) + Arrays.toString(keyFor(x, "forRing"));
     }
 
     private static void gatesWithoutTheKey() throws Exception {
@@ -76,25 +102,38 @@ public final class RowsTest {
         Check.same("another key finds bits out of their bounds", true, outside > 90);
     }
 
+    /** On both sides the last place that is within the bound, and the first that is not. */
     private static void withinMeasures() throws Exception {
+        for (int bound : new int[] {16, 32, 3186688, 268435456, Talk.GREATEST_BOUND}) {
+            for (int value = 0; value < 2; value++) {
+                TorusGates x = new TorusGates();
+                new Talk("12: within its bound", x).bit(value == 1, 0).raise(0, bound);
+                for (int side = -1; side <= 1; side += 2) {
+                    moveTo(x, value, side * bound);
+                    Check.same("at its bound " + side * bound, true, x.within(0));
+                    moveTo(x, value, side * (bound + 1));
+                    Check.same("beyond its bound " + side * bound, false, x.within(0));
+                }
+                moveTo(x, value, 0);
+                Check.same("at its place", true, x.within(0));
+                moveTo(x, value, Integer.MIN_VALUE);
+                Check.same("on the other side", false, x.within(0));
+            }
+        }
+    }
+
+    /** Puts bit 0 off its place by so much. */
+    private static void moveTo(TorusGates x, int value, int off) throws Exception {
+        int[] row = row(x, 0);
+        row[8] += (value == 1 ? 1 << 29 : -(1 << 29)) + off - placeOf(x, 0);
+    }
+
+    private static void withinOnTheOtherSide() throws Exception {
         TorusGates x = new TorusGates();
         x.bit(true);
-        x.bit(false);
-        for (int a = 0; a < 2; a++) {
-            int[] row = row(x, a);
-            row[8] += 40;
-            Check.same("moved up", false, x.within(a));
-            row[8] -= 80;
-            Check.same("moved down", false, x.within(a));
-            row[8] += 40 + (1 << 30);
-            Check.same("moved far", false, x.within(a));
-            row[8] -= 1 << 30;
-            Check.same("moved back", true, x.within(a));
-        }
-        int[] row = row(x, 0);
-        row[8] += 1 << 31;
-        Check.same("on the other side", 0, x.open(0));
-        Check.same("out of its bound there", false, x.within(0));
+        row(x, 0)[8] += 1 << 31;
+        Check.same("open goes by the row", 0, x.open(0));
+        Check.same("within goes by what the bit ought to be", false, x.within(0));
     }
 
     private static void rowsAreNotInTheClear() throws Exception {
@@ -108,6 +147,55 @@ public final class RowsTest {
         x.key(2);
         x.bit(true);
         Check.same("a row under another key differs", false, Arrays.equals(before, row(x, 0)));
+    }
+
+    private static void masksAreDrawnAnew() throws Exception {
+        TorusGates x = new TorusGates();
+        x.bit(true);
+        x.bit(true);
+        eachDiffers("a row", row(x, 0), row(x, 1), 9);
+        int[][] steps = (int[][]) field(field(x, "refresher"), "steps");
+        for (int i = 1; i < steps.length; i++) {
+            eachDiffers("a step", steps[i - 1], steps[i], 64);
+        }
+        int[][] wayBack = (int[][]) field(field(x, "refresher"), "wayBack");
+        for (int i = 1; i < wayBack.length; i++) {
+            eachDiffers("the way back", wayBack[i - 1], wayBack[i], 9);
+        }
+    }
+
+    private static void eachDiffers(String what, int[] one, int[] other, int size) {
+        for (int i = 0; i < size; i++) {
+            Check.same("number " + i + " of " + what + " is the same twice", false, one[i] == other[i]);
+        }
+    }
+
+    private static void keysAreDrawnAnew() throws Exception {
+        int seeds = 60;
+        for (String part : new String[] {"forRows", "forRing"}) {
+            int[] ones = new int[32];
+            for (int seed = 0; seed < seeds; seed++) {
+                TorusGates x = new TorusGates();
+                x.key(seed);
+                int[] key = keyFor(x, part);
+                for (int i = 0; i < key.length; i++) {
+                    ones[i] += key[i];
+                }
+            }
+            for (int i = 0; i < (part.equals("forRows") ? 8 : 32); i++) {
+                Check.same("key bit " + i + " " + part + " varies", true, ones[i] > 10 && ones[i] < seeds - 10);
+            }
+        }
+    }
+
+    private static void blurMovesByAtMost16() throws Exception {
+        TorusGates x = new TorusGates();
+        x.bit(true);
+        for (int i = 0; i < 500; i++) {
+            int before = placeOf(x, 0);
+            x.blur(0, 1);
+            Check.same("a blur moves by at most 16", true, Math.abs(placeOf(x, 0) - before) <= 16);
+        }
     }
 
     private static void pileLaysRowsOverThemselves() throws Exception {
@@ -189,21 +277,28 @@ public final class RowsTest {
 
     /** All key bits are 1 and all numbers are rounded the same way; the bits are as far off as gates bear. */
     private static void worstRoundings() throws Exception {
-        TorusGates x = new TorusGates();
-        int seed = 0;
-        while (seed < 100000 && Arrays.stream(keyFor(x, "forRows")).sum() < 8) {
-            x.key(seed);
-            seed++;
-        }
-        Check.same("a key of ones", 8, Arrays.stream(keyFor(x, "forRows")).sum());
+        int seed = seedOfOnes();
         int half = 1 << 25;
         for (int number : new int[] {0, 2, half - 2, half, half + 2, 2 * half - 2, -2, -half, -half - 2}) {
             for (int values = 0; values < 4; values++) {
                 for (int sign = -1; sign <= 1; sign += 2) {
+                    TorusGates x = new TorusGates();
+                    x.key(seed);
                     worstGates(x, number, values, sign);
                 }
             }
         }
+    }
+
+    private static int seedOfOnes() throws Exception {
+        for (int seed = 0; seed < 100000; seed++) {
+            TorusGates x = new TorusGates();
+            x.key(seed);
+            if (Arrays.stream(keyFor(x, "forRows")).sum() == 8) {
+                return seed;
+            }
+        }
+        throw new AssertionError("no seed makes a key of ones");
     }
 
     private static final int[] FIRST = {1, 1, -1, -1, 2, -2, 1, 1};
@@ -216,8 +311,8 @@ public final class RowsTest {
             boolean second = (values & 1) == 1;
             int a = x.bit(first);
             int b = x.bit(second);
-            PromisesTest.raise(x, a, (Math.abs(off) + 8) / 16);
-            PromisesTest.raise(x, b, (Math.abs(off) + 8) / 16 - 1);
+            Talk t = new Talk("worst, raised", x);
+            t.raise(a, Math.abs(off) + 8).raise(b, Math.abs(off) - 8);
             place(row(x, a), number / FIRST[g], first, off * Integer.signum(FIRST[g]));
             place(row(x, b), 0, second, (off - sign * 8) * Integer.signum(SECOND[g]));
             Check.same("worst, within " + g, true, x.within(a) && x.within(b));
