@@ -211,7 +211,8 @@ public final class CircuitTest {
 
     private static void clearLeavesNoLines() {
         Talk t = new Talk("15: No lines").lines(24).clear(24).count(3, 0);
-        t.play(8, 0, Check.NO_SUCH).play(31, 0, Check.NO_SUCH).line(0, 8, 0, Check.NO_SUCH).line(0, 0, 8, Check.NO_SUCH);
+        t.play(8, 0, Check.NO_SUCH).play(31, 0, Check.NO_SUCH);
+        t.line(0, 8, 0, Check.NO_SUCH).line(0, 0, 8, Check.NO_SUCH);
         t.line(0, 0, 1, 8).play(9, 0, Check.NO_SUCH).play(8, 3, 0).open(0, 1).play(8, 2, 1).open(1, 0).count(3, 1);
         t.line(4, 8, 9, Check.NO_SUCH).line(4, 8, 8, 9).play(9, 3, 2).open(2, 0);
     }

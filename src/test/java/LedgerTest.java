@@ -9,6 +9,7 @@ public final class LedgerTest {
         eachIsThereOrNot();
         newObjectHasNoBits();
         newObjectHasNoCircuit();
+        newObjectBesideAnother();
         keyTakesAllBits();
         keyLeavesNothingOfThem();
         keyLeavesTheCircuit();
@@ -87,6 +88,16 @@ public final class LedgerTest {
     private static void newObjectHasNoCircuit() {
         new Talk("1: no circuit").play(8, 0, Check.NO_SUCH).play(31, 0, Check.NO_SUCH)
             .line(0, 8, 0, Check.NO_SUCH).counts(0, 0, 0, 0, 0).clear(0).line(0, 0, 0, 8);
+    }
+
+    private static void newObjectBesideAnother() {
+        Talk one = new Talk("1: A new object, beside one that is made later").bits(60, 60).lines(24);
+        Talk other = new Talk("1: A new object, beside one that is in use").counts(0, 0, 0, 0, 0);
+        other.bit(true, 0).open(1, Check.NO_SUCH).play(8, 0, Check.NO_SUCH).key(9, 1).bit(true, 0).pile(0, 1, 144);
+        one.is(0, 0, 16).is(119, 1, 16).counts(120, 0, 0, 24, 16).drop(0, 119).gate(1, 1, 119, 0);
+        other.gate(0, 0, 0, 1).is(1, 1, Talk.GATE_BOUND).is(0, 1, 144).line(0, 0, 0, 8);
+        one.is(0, 1, Talk.GATE_BOUND).clear(24).key(9, 120).counts(0, 1, 0, 0, 0);
+        other.counts(2, 1, 0, 1, Talk.GATE_BOUND).is(0, 1, 144).is(1, 1, Talk.GATE_BOUND).play(8, 1, 2).open(2, 1);
     }
 
     private static void keyTakesAllBits() {

@@ -9,6 +9,7 @@ import java.util.Arrays;
 public final class RowsTest {
     public static void main(String[] args) throws Exception {
         newObjectHasTheKeyOfSeed1();
+        sameCallsMakeTheSameRows();
         gatesWithoutTheKey();
         openingNeedsTheKey();
         withinMeasures();
@@ -58,6 +59,17 @@ public final class RowsTest {
 
     private static String keyOf(TorusGates x) throws Exception {
         return Arrays.toString(keyFor(x, "forRows")) + Arrays.toString(keyFor(x, "forRing"));
+    }
+
+    private static void sameCallsMakeTheSameRows() throws Exception {
+        TorusGates one = new TorusGates();
+        TorusGates other = new TorusGates();
+        for (TorusGates x : new TorusGates[] {one, other}) {
+            new Talk("the same calls", x).key(5, 0).bits(1, 1).gate(4, 0, 1, 2).blur(0, 3, 64).choose(0, 1, 2, 3);
+        }
+        for (int a = 0; a < 4; a++) {
+            Check.same("row " + a, Arrays.toString(row(one, a)), Arrays.toString(row(other, a)));
+        }
     }
 
     private static void gatesWithoutTheKey() throws Exception {
